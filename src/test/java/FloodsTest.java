@@ -64,6 +64,11 @@ public final class FloodsTest {
         CHECK.due("no ditch: flood()", two.flood(), 0);
         CHECK.due("no ditch: cut()", two.cut(), 1);
         CHECK.due("no ditch: narrow()", two.narrow(), 0);
+        ChaletRule pair = Check.with(Village.ZEROS + ";field f;field g;ditch f g carries 9");
+        CHECK.due("one ditch: flood()", pair.flood(), 9);
+        CHECK.due("one ditch: cut()", pair.cut(), 1);
+        CHECK.due("one ditch: narrow()", pair.narrow(), 1);
+        CHECK.due("one ditch: floodIf(0, 0)", pair.floodIf(0, 0), 0);
         ChaletRule up = Check.with(Village.ZEROS + ";field f;field g;ditch g f carries 9");
         CHECK.due("the wrong way: flood()", up.flood(), 0);
         CHECK.due("the wrong way: downhill", up.downhill(0) * 10 + up.downhill(1), 13);

@@ -94,6 +94,8 @@ public final class MakesTest {
         ChaletRule both = Check.with(Village.chalet(50, 1, 1, 0) + ";saw day 7 both");
         CHECK.due("both: oil 3 alone", both.makes(), 10);
         CHECK.due("both: surely(true)", both.surely(true), 3);
+        CHECK.due("both: look()", both.look(), 0);
+        CHECK.due("both: lookLeaves()", both.lookLeaves(), 10);
     }
 
     /** As told: he is out behind day 0 already; the number is that of what was seen, not of its day. */

@@ -130,6 +130,11 @@ public final class NowTest {
             last.day();
         }
         CHECK.due("day 20 gone by", last.plan(0, 3), 1);
+        ChaletRule first = Check.with(Village.chalet(0, 0, 1, 0) + ";plan a on 0 fine worth 1;plan b on 1 fine worth 1");
+        CHECK.due("the first day is still", first.plan(0, 3), 0);
+        first.day();
+        CHECK.due("the first day was still", first.plan(0, 3), 0);
+        CHECK.due("the second one is fine", first.plan(1, 3), 1);
         int[][] wrong = {{-1, 0}, {2, 0}, {0, -1}, {0, 4}};
         for (int[] w : wrong) {
             CHECK.refused("plan(" + w[0] + ", " + w[1] + ")", x, x.plan(w[0], w[1]), 1);

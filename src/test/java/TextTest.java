@@ -84,6 +84,7 @@ public final class TextTest {
         CHECK.due("noughts ahead: damp", x.beam(1), 7);
         CHECK.due("names like other words", Check.read(x, Z + ";vent wet wet 1 costs 0;vent he fine 1 costs 0;"
                 + "plan on on 1 wet worth 0;field damp;field abcdefgh;ditch damp abcdefgh carries 1"), 2);
+        CHECK.due("all letters", Check.read(x, Z + ";field zebra;field jazz;ditch zebra jazz carries 1"), 0);
         CHECK.due("both ways", Check.read(x, Z + ";field f;field g;ditch f g carries 1;ditch g f carries 99"), 0);
         CHECK.due("all of the room", Check.read(x, full()), 4);
         sizes("all of the room", x, 9, 3, 100, 30, 30, 4, 6, 5, 6, 9);

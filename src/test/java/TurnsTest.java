@@ -50,6 +50,17 @@ public final class TurnsTest {
                 + "vent d wet 1 costs 0");
         CHECK.due("the last vent", last.opens(1), 3);
         CHECK.due("its value", last.value(1), 10);
+        ChaletRule far = Check.with(Village.chalet(0, 0, 0, 0) + ";vent a fine 9 costs 0;vent b wet 9 costs 0");
+        for (int i = 0; i < 9; i++) {
+            far.open(0);
+            far.day();
+        }
+        CHECK.due("far on the fine side", far.beam(0), 0);
+        CHECK.due("one back without a vent", far.value(1), 1);
+        CHECK.due("none is as good", far.opens(1), -2);
+        far.open(0);
+        CHECK.due("the fine one is open", far.value(1), 1);
+        CHECK.due("the wet one helps", far.opens(1), 1);
     }
 
     private static void ventsOpenNow() {

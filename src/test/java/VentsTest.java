@@ -109,6 +109,9 @@ public final class VentsTest {
         CHECK.due("none at all", slow.rowFor(0, 4), 0);
         ChaletRule few = Check.with(Village.chalet(50, 0, 1, 0) + ";vent a wet 1 costs 0;vent b wet 9 costs 9");
         CHECK.due("one vent late ahead of two early", few.rowFor(1, 2), 2);
+        ChaletRule turn = Check.with(Village.chalet(61, 0, 2, 0) + ";weather wet 0 fine 2;vent a wet 4 costs 0;"
+                + "vent b fine 2 costs 0");
+        CHECK.due("row 20 has fewer vents than row 12", turn.rowFor(0, 2), 20);
     }
 
     private static void withVentsOpenNow() {
