@@ -668,6 +668,7 @@ public final class ChaletRule {
         private static final int PARTING = 3;
         private static final int NO_TOKEN = 4;
 
+        private static final int MOST_FIELDS = 6;
         private static final int LONGEST_WORD = 8;
         private static final int LONGEST_WHOLE = 3;
 
@@ -742,7 +743,7 @@ public final class ChaletRule {
                 return draft.saws.isFull() ? fails(MANY) : readSaw();
             }
             if (isWord("field")) {
-                return draft.fields >= 6 ? fails(MANY) : readField();
+                return draft.fields >= MOST_FIELDS ? fails(MANY) : readField();
             }
             return draft.ditches.isFull() ? fails(MANY) : readDitch();
         }
@@ -1202,6 +1203,9 @@ public final class ChaletRule {
         }
 
         private void passTurn(Told told, int turn, int pick) {
+            if (!within(turn, 0, ROW_DAYS - 1)) {
+                return;
+            }
             Beam next = behind[turn + 1];
             next.copy(behind[turn]);
             if (pick > 0) {
@@ -1211,6 +1215,9 @@ public final class ChaletRule {
         }
 
         private int scoreOf(Told told, Beam now, int n, int aim) {
+            if (!within(n, 0, ROW_DAYS)) {
+                return UNFIT;
+            }
             Beam end = behind[n];
             if (aim == MOST_WORTH) {
                 return told.worthKept(end, now.days) - coins[n];
@@ -1265,7 +1272,7 @@ public final class ChaletRule {
 
         private int bestFrom(Told told, int turn, int n) {
             if (turn >= n || turn >= ROW_DAYS) {
-                return behind[turn].angle;
+                return behind[within(turn, 0, ROW_DAYS) ? turn : 0].angle;
             }
             boolean junior = turn % 2 == 0;
             int best = junior ? -FARTHEST : FARTHEST;
@@ -1545,11 +1552,14 @@ public final class ChaletRule {
 
     /** The beam as it was: ahead of the latest ACTS, and by IMAGES. */
     static final class Past {
+        private static final int ACTS_KEPT = 16;
+        private static final int IMAGES_KEPT = 3;
+
         int acts;
         int images;
         private int next;
-        private final Beam[] aheadOf = new Beam[16];
-        private final Beam[] painted = new Beam[3];
+        private final Beam[] aheadOf = new Beam[ACTS_KEPT];
+        private final Beam[] painted = new Beam[IMAGES_KEPT];
 
         Past() {
             for (int i = 0; i < aheadOf.length; i++) {
@@ -1568,22 +1578,22 @@ public final class ChaletRule {
         /** Ahead of an ACT; the oldest one that is kept gives way when there are too many. */
         void keep(Beam now) {
             aheadOf[next].copy(now);
-            next = (next + 1) % aheadOf.length;
-            acts = Math.min(acts + 1, aheadOf.length);
+            next = (next + 1) % ACTS_KEPT;
+            acts = Math.min(acts + 1, ACTS_KEPT);
         }
 
         boolean takeBack(Beam now) {
             if (acts == 0) {
                 return false;
             }
-            next = (next + aheadOf.length - 1) % aheadOf.length;
+            next = (next + ACTS_KEPT - 1) % ACTS_KEPT;
             now.copy(aheadOf[next]);
             acts--;
             return true;
         }
 
         int paint(Beam now) {
-            if (images >= painted.length) {
+            if (images >= IMAGES_KEPT) {
                 return NONE;
             }
             painted[images].copy(now);
@@ -1592,7 +1602,7 @@ public final class ChaletRule {
         }
 
         boolean recall(int image, Beam now) {
-            if (image < 0 || image >= images || image >= painted.length) {
+            if (image < 0 || image >= images || image >= IMAGES_KEPT) {
                 return false;
             }
             now.copy(painted[image]);
