@@ -193,6 +193,7 @@ final class DaysSentences {
         doc.due("1 behind the next, then 0 and 0", rest.round(), 30001);
         ChaletRule slow = Check.with(Village.chalet(60, 0, 2, 0) + ";weather wet 1 fine 0");
         doc.due("the same ANGLE with another DAMP is not as it was", slow.round(), 420001);
+        farRounds();
         says("16", "ROUND: behind how many DAYS it is as it was ahead, and how long the round is:");
         doc.due("round()", village.round(), 50001);
         ChaletRule x = Check.with(Village.TEXT);
@@ -203,6 +204,27 @@ final class DaysSentences {
         doc.due("one long", village.round() % 10000, 1);
         says("16", "NONE: 1 (no CHALET).");
         doc.refused("round()", none, none.round(), 1);
+    }
+
+    private static ChaletRule driven(String house, int days, String weather) {
+        ChaletRule x = Check.with(house + ";vent a " + weather + " 9 costs 0");
+        for (int i = 0; i < days; i++) {
+            x.open(0);
+            x.day();
+        }
+        return x;
+    }
+
+    private void farRounds() {
+        ChaletRule wettest = driven(Village.chalet(100, 0, 3, 0), 4, "wet");
+        wettest.open(0);
+        doc.due("9, 6, 5, 5 with DAMP 100", wettest.round(), 40001);
+        ChaletRule finest = driven(Village.ZEROS.replace("oil 0", "oil 3"), 4, "fine");
+        finest.open(0);
+        doc.due("-9, -5, -5 with DAMP 0", finest.round(), 30001);
+        ChaletRule crossing = driven(Village.chalet(50, 0, 0, 0) + ";weather wet 1 fine 0", 9, "wet");
+        doc.due("at 9", crossing.beam(0), 18);
+        doc.due("one less with one more DAMP is not as it was", crossing.round(), 90001);
     }
 
     private void kept() {

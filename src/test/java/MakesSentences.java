@@ -51,6 +51,10 @@ final class MakesSentences {
         ChaletRule later = Check.with(Village.chalet(82, 3, 1, 0) + ";weather wet 1 fine 0;saw day 1 none");
         doc.due("day 2", later.look(), 2);
         doc.due("it leaves", later.lookLeaves(), 8);
+        ChaletRule she = Check.with(Village.chalet(20, 1, 1, 0) + ";saw day 0 none");
+        doc.due("of 12", she.makes(), 12);
+        doc.due("she comes out: day 1", she.look(), 1);
+        doc.due("it leaves", she.lookLeaves(), 10);
         doc.due("all alike: the first", two.look(), 0);
         doc.due("it leaves", two.lookLeaves(), 8);
     }

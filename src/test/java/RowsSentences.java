@@ -97,6 +97,8 @@ final class RowsSentences {
         ChaletRule like = Check.with(LIGHT + free + ";plan p on 2 wet worth 5");
         doc.due("bestRow(1)", like.bestRow(1), 0);
         doc.due("bestRow(3)", like.bestRow(3), 20);
+        doc.due("behind another row", like.worthOf(4444, 4), 1005);
+        doc.due("bestRow(3) again", like.bestRow(3), 20);
         doc.due("sureRow(3)", like.sureRow(3), 20);
         doc.due("bestRow(4)", like.bestRow(4), 200);
         doc.due("sureRow(4)", like.sureRow(4), 200);
@@ -225,6 +227,8 @@ final class RowsSentences {
         ChaletRule slow = Check.with(Village.chalet(50, 0, 0, 0) + ";vent a wet 9 costs 9;vent b wet 3 costs 0");
         doc.due("the first of three, whatever it costs", slow.rowFor(1, 3), 111);
         doc.due("none ahead of all", slow.rowFor(1, 4), 111);
+        ChaletRule early = Check.with(Village.chalet(50, 0, 2, 0) + ";weather wet 30 fine 0;vent a wet 1 costs 0");
+        doc.due("of one vent each, 10 is behind 1", early.rowFor(1, 2), 1);
         says("23", "of n DAYS by which those out behind them are WHO (0 .. 3);");
         int[] behindOne = {0, 1, 2, -2};
         for (int who = 0; who < 4; who++) {
@@ -297,6 +301,14 @@ final class RowsSentences {
         ChaletRule only = Check.with(LIGHT + ";vent a wet 1 costs 99");
         doc.due("the first one", only.opens(1), 0);
         doc.due("not refused", only.trouble(), 0);
+        ChaletRule far = Check.with(Village.ZEROS + ";vent a fine 9 costs 0;vent b wet 6 costs 0");
+        for (int i = 0; i < 9; i++) {
+            far.open(0);
+            far.day();
+        }
+        far.open(0);
+        doc.due("-8 is better than -9", far.opens(1), 1);
+        doc.due("its VALUE", far.value(1), 1);
         says("32", "-2 none is as good as any.");
         doc.due("two DAYS: it comes back", only.opens(2), -2);
         doc.due("without vents", Check.with(LIGHT).opens(4), -2);

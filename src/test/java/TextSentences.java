@@ -254,6 +254,12 @@ final class TextSentences {
                 doc.fault(3, Z + ";" + first + ";" + second.replace(" n", " ^n"));
             }
         }
+        String all = lines("vent # wet 1 costs 0", 4) + ";plan pa on 0 wet worth 0;plan pb on 0 wet worth 0;plan pc on 0 wet worth 0;"
+                + "plan pd on 0 wet worth 0;plan pe on 0 wet worth 0;plan pf on 0 wet worth 0;field fa;field fb;field fc;field fd;field fe;field ";
+        doc.due("the last of sixteen", doc.reads(all + "ff;ditch fa ff carries 7").flood(), 7);
+        for (String name : new String[] {"na", "nd", "pa", "pf", "fa", "fe"}) {
+            doc.fault(3, all + "^" + name);
+        }
         says("I", "ahead of its use.");
         doc.fault(2, Z + ";field f;ditch f ^g carries 1;field g");
         doc.fault(2, Z + ";field g;ditch ^f g carries 1;field f");
@@ -282,6 +288,8 @@ final class TextSentences {
             doc.fault(1, "chalet damp ^" + other);
             doc.fault(1, Z + "  ^" + other);
             doc.fault(1, Z + ";field f^" + other + "g");
+            doc.fault(1, TWO + ";ditch ^" + other + "f g carries 1");
+            doc.fault(1, TWO + ";ditch f ^" + other + "g carries 1");
         }
         says("I", "or TOKEN with which no CHALET goes on");
         doc.fault(1, "chalet ^wood 0");
@@ -400,6 +408,7 @@ final class TextSentences {
         Check.put(x, (Z + "1;field f").getBytes(StandardCharsets.ISO_8859_1));
         doc.due("chalet(33)", x.chalet(33), 0);
         doc.due("no field", x.size(8), 0);
+        doc.due("gust 0", x.size(2), 0);
         Check.put(x, (Z + "1;field f").getBytes(StandardCharsets.ISO_8859_1));
         x.chalet(34);
         doc.due("gust 01", x.size(2), 1);
@@ -411,6 +420,10 @@ final class TextSentences {
         doc.due("behind a CHALET", x.size(13), 0);
         doc.refused("chalet(1)", x, x.chalet(1), 2);
         says("3", "are the CHALET from now on");
+        Check.read(x, Village.TEXT);
+        for (int i = 0; i < 4; i++) {
+            textsByTurns(x);
+        }
         Check.read(x, Village.TEXT);
         Check.read(x, Village.chalet(11, 2, 3, 4) + ";vent v wet 5 costs 6");
         int[] sizes = {2, 3, 4, 10, 10, 1, 0, 0, 0, 0};
@@ -429,8 +442,10 @@ final class TextSentences {
         doc.due("angle", x.beam(0), 9);
         doc.due("OIL as told", x.beam(3), 1);
         doc.due("shut", x.vent(0, 3), 0);
+        wetAndFineAreForgotten();
         says("3", "nothing to undo, no IMAGES):");
         x.day();
+        x.oil();
         x.image();
         Check.read(x, Village.TEXT);
         doc.due("size(11)", x.size(11), 0);
@@ -439,11 +454,47 @@ final class TextSentences {
         doc.is("back(0)", x, x.back(0), 1);
         doc.due("the first number again", x.image(), 0);
         says("3", "how many vents.");
+        x.beam(77);
         for (int vents = 0; vents <= 4; vents++) {
             doc.due(vents + " vents", Check.read(x, lines("vent # wet 1 costs 0", vents)), vents);
             doc.due("not refused", x.trouble(), 0);
+            x.beam(77);
         }
         chaletRefused();
+    }
+
+    /** What the DAYS of an old CHALET were keeps no plan of a new one. */
+    private void wetAndFineAreForgotten() {
+        String plans = ";plan p on 1 wet worth 1;plan q on 1 fine worth 1";
+        for (int damp = 20; damp <= 80; damp += 60) {
+            ChaletRule x = Check.with(Village.chalet(damp, 0, 1, 0));
+            x.day();
+            x.day();
+            Check.read(x, Village.chalet(50, 0, 1, 0) + plans);
+            doc.due("kept(2)", x.kept(2), 0);
+            x.day();
+            x.day();
+            doc.due("led(0)", Check.led(x, 0), -1000);
+        }
+    }
+
+    /** Nothing of a text, whole or faulty, is left over for the one behind it. */
+    private void textsByTurns(ChaletRule x) {
+        String rich = lines("vent # wet 1 costs 0", 4) + ";field f;field g;ditch f g carries 5;plan p on 1 wet worth 1;saw day 0 both";
+        doc.due("rich", Check.read(x, rich), 4);
+        doc.due("makes of rich", x.makes(), 0);
+        doc.due("flood of rich", x.flood(), 5);
+        doc.due("faulty", Check.read(x, rich + ";weather wet 1 fine 1;"), -1);
+        doc.due("poor", Check.read(x, Z + ";field f"), 0);
+        doc.due("makes of poor", x.makes(), 40);
+        int[] sizes = {0, 0, 0, 10, 10, 0, 0, 0, 1, 0};
+        for (int what = 0; what < sizes.length; what++) {
+            doc.due("size(" + what + ") of poor", x.size(what), sizes[what]);
+        }
+        doc.due("faulty at once", Check.read(x, "vent"), -1);
+        doc.due("again", Check.read(x, Z + ";field f"), 0);
+        doc.refused("not told in this one", x, Check.read(x, Z + ";field g;ditch g f carries 1"), 4);
+        doc.due("its FAULT", x.fault(), 2);
     }
 
     private void chaletRefused() {
