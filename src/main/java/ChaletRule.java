@@ -53,8 +53,6 @@ public final class ChaletRule {
     private static final int DITCH_TO = 1;
     private static final int DITCH_CARRIES = 2;
 
-    private final byte[] tape;
-    private int tapeBytes;
     private final Reader reader;
     private Told told;
     private boolean hasChalet;
@@ -69,8 +67,7 @@ public final class ChaletRule {
     private final Gusts gusts;
 
     public ChaletRule() {
-        tape = new byte[TAPE_ROOM];
-        reader = new Reader(tape);
+        reader = new Reader();
         told = new Told();
         now = new Beam();
         past = new Past();
@@ -83,22 +80,21 @@ public final class ChaletRule {
     // ---- the chalet
 
     public int feed(int a, int b, int c, int d, int e) {
-        if (tapeBytes > TAPE_ROOM - BYTES_A_FEED) {
+        if (reader.tapeBytes > TAPE_ROOM - BYTES_A_FEED) {
             return NONE;
         }
-        putBytes(a);
-        putBytes(b);
-        putBytes(c);
-        putBytes(d);
-        putBytes(e);
-        return tapeBytes;
+        reader.putBytes(a);
+        reader.putBytes(b);
+        reader.putBytes(c);
+        reader.putBytes(d);
+        reader.putBytes(e);
+        return reader.tapeBytes;
     }
 
     public int chalet(int n) {
-        if (!within(n, 0, tapeBytes)) {
+        if (!within(n, 0, reader.tapeBytes)) {
             return refuse(BAD_NUMBER);
         }
-        tapeBytes = 0;
         reader.begin(n);
         boolean whole = reader.readLines();
         fault = reader.fault;
@@ -466,7 +462,7 @@ public final class ChaletRule {
             case 12:
                 return past.images;
             case 13:
-                return tapeBytes;
+                return reader.tapeBytes;
             default:
                 return NONE;
         }
@@ -506,13 +502,6 @@ public final class ChaletRule {
     private Makes gathered() {
         seenMakes.gather(told);
         return seenMakes;
-    }
-
-    private void putBytes(int four) {
-        for (int shift = 24; shift >= 0 && tapeBytes < TAPE_ROOM; shift -= 8) {
-            tape[tapeBytes] = (byte) (four >>> shift);
-            tapeBytes++;
-        }
     }
 
     /** The old CHALET's object is the reader's next draft, so that reading makes nothing new. */
@@ -653,7 +642,7 @@ public final class ChaletRule {
         }
     }
 
-    /** Reads a text, TOKEN by TOKEN, until its end or its first FAULT. */
+    /** Holds THE TAPE, and reads a text from it, TOKEN by TOKEN, until its end or its first FAULT. */
     static final class Reader {
         private static final int FORM = 1;
         private static final int UNTOLD = 2;
@@ -674,8 +663,9 @@ public final class ChaletRule {
 
         int fault;
         int place;
+        int tapeBytes;
         Told draft = new Told();
-        private final byte[] text;
+        private final byte[] tape = new byte[TAPE_ROOM];
         private int length;
         private int at;
         private int tokenKind;
@@ -688,12 +678,17 @@ public final class ChaletRule {
         private final int[] fieldsByName = new int[16];
         private int namesTold;
 
-        Reader(byte[] text) {
-            this.text = text;
+        void putBytes(int four) {
+            for (int shift = 24; shift >= 0 && tapeBytes < tape.length; shift -= 8) {
+                tape[tapeBytes] = (byte) (four >>> shift);
+                tapeBytes++;
+            }
         }
 
+        /** The bytes of the text stay where they are until others come. */
         void begin(int bytes) {
-            length = Math.min(bytes, text.length);
+            length = Math.min(bytes, tape.length);
+            tapeBytes = 0;
             draft.clear();
             at = 0;
             fault = 0;
@@ -938,16 +933,16 @@ public final class ChaletRule {
         }
 
         private void nextToken() {
-            while (at < length && text[at] == ' ') {
+            while (at < length && tape[at] == ' ') {
                 at++;
             }
             tokenPlace = at;
             if (at >= length) {
                 tokenKind = END;
-            } else if (text[at] == ';') {
+            } else if (tape[at] == ';') {
                 tokenKind = PARTING;
                 at++;
-            } else if (text[at] >= '0' && text[at] <= '9') {
+            } else if (tape[at] >= '0' && tape[at] <= '9') {
                 takeWhole();
             } else {
                 takeWord();
@@ -957,8 +952,8 @@ public final class ChaletRule {
         /** Letters that stand together are one WORD or, too many, none: five bits a letter tell them apart. */
         private void takeWord() {
             tokenWord = 0;
-            while (at < length && text[at] >= 'a' && text[at] <= 'z') {
-                tokenWord = tokenWord * 32 + (text[at] - 'a' + 1);
+            while (at < length && tape[at] >= 'a' && tape[at] <= 'z') {
+                tokenWord = tokenWord * 32 + (tape[at] - 'a' + 1);
                 at++;
             }
             tokenKind = within(at - tokenPlace, 1, LONGEST_WORD) ? WORD : NO_TOKEN;
@@ -966,8 +961,8 @@ public final class ChaletRule {
 
         private void takeWhole() {
             tokenWhole = 0;
-            while (at < length && text[at] >= '0' && text[at] <= '9') {
-                tokenWhole = tokenWhole * 10 + (text[at] - '0');
+            while (at < length && tape[at] >= '0' && tape[at] <= '9') {
+                tokenWhole = tokenWhole * 10 + (tape[at] - '0');
                 at++;
             }
             tokenKind = at - tokenPlace <= LONGEST_WHOLE ? WHOLE : NO_TOKEN;

@@ -287,6 +287,9 @@ final class TextSentences {
             doc.fault(1, "^" + other + Z);
             doc.fault(1, "chalet damp ^" + other);
             doc.fault(1, Z + "  ^" + other);
+            doc.fault(1, Z + ";vent v wet ^" + other + "1 costs 0");
+            doc.fault(1, TWO + ";ditch f g carries ^" + other + "1");
+            doc.fault(1, Z + ";saw day 0 he;saw day ^" + other + "1 he");
             doc.fault(1, Z + ";field f^" + other + "g");
             doc.fault(1, TWO + ";ditch ^" + other + "f g carries 1");
             doc.fault(1, TWO + ";ditch f ^" + other + "g carries 1");
@@ -300,6 +303,8 @@ final class TextSentences {
         doc.fault(1, Z + ";vent ^5");
         doc.fault(1, Z + ";vent ^;");
         doc.fault(1, Z + ";vent v wet ^wet");
+        doc.fault(1, Z + ";vent wet ^5 costs 0");
+        doc.fault(1, Z + ";plan on ^5 wet worth 0");
         doc.fault(1, Z + ";saw day 1 ^1");
         says("I", "(the end: its place).");
         doc.fault(1, "^");
