@@ -956,7 +956,8 @@ public final class ChaletRule {
                 tokenWord = tokenWord * 32 + (tape[at] - 'a' + 1);
                 at++;
             }
-            tokenKind = within(at - tokenPlace, 1, LONGEST_WORD) ? WORD : NO_TOKEN;
+            int letters = at - tokenPlace;
+            tokenKind = letters >= 1 && letters <= LONGEST_WORD ? WORD : NO_TOKEN;
         }
 
         private void takeWhole() {
@@ -1262,18 +1263,19 @@ public final class ChaletRule {
         /** The ANGLE behind n DAYS of turns, both playing best. */
         int played(Told told, Beam now, int n) {
             behind[0].copy(now);
-            return bestFrom(told, 0, n);
+            return bestFrom(this, told, 0, n);
         }
 
-        private int bestFrom(Told told, int turn, int n) {
+        /** It calls itself, so it is static, and the turn that it is at ends it. */
+        private static int bestFrom(VentRows rows, Told told, int turn, int n) {
             if (turn >= n || turn >= ROW_DAYS) {
-                return behind[within(turn, 0, ROW_DAYS) ? turn : 0].angle;
+                return rows.behind[within(turn, 0, ROW_DAYS) ? turn : 0].angle;
             }
             boolean junior = turn % 2 == 0;
             int best = junior ? -FARTHEST : FARTHEST;
             for (int pick = 0; pick <= told.vents.count; pick++) {
-                passTurn(told, turn, pick);
-                int angle = bestFrom(told, turn + 1, n);
+                rows.passTurn(told, turn, pick);
+                int angle = bestFrom(rows, told, turn + 1, n);
                 best = junior ? Math.max(best, angle) : Math.min(best, angle);
             }
             return best;
@@ -1285,7 +1287,7 @@ public final class ChaletRule {
             int best = -FARTHEST - 1;
             for (int pick = 0; pick <= told.vents.count; pick++) {
                 passTurn(told, 0, pick);
-                int angle = bestFrom(told, 1, n);
+                int angle = bestFrom(this, told, 1, n);
                 if (angle > best) {
                     best = angle;
                     vent = pick == 0 ? NOTHING_FITS : pick - 1;
@@ -1572,17 +1574,21 @@ public final class ChaletRule {
 
         /** Ahead of an ACT; the oldest one that is kept gives way when there are too many. */
         void keep(Beam now) {
+            if (!within(next, 0, ACTS_KEPT - 1)) {
+                return;
+            }
             aheadOf[next].copy(now);
             next = (next + 1) % ACTS_KEPT;
             acts = Math.min(acts + 1, ACTS_KEPT);
         }
 
         boolean takeBack(Beam now) {
-            if (acts == 0) {
+            int latest = (next + ACTS_KEPT - 1) % ACTS_KEPT;
+            if (acts == 0 || !within(latest, 0, ACTS_KEPT - 1)) {
                 return false;
             }
-            next = (next + ACTS_KEPT - 1) % ACTS_KEPT;
-            now.copy(aheadOf[next]);
+            now.copy(aheadOf[latest]);
+            next = latest;
             acts--;
             return true;
         }
